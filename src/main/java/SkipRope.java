@@ -196,6 +196,7 @@ public final class SkipRope {
         int most = -1;
         for (int every = LEAST_EVERY; every <= MOST_EVERY; every++) {
             trial.become(scene);
+            // By the one rule for all of them, though speeds() would refuse the one that it has.
             trial.turn(every);
             playOn(n);
             int left = Integer.bitCount(trial.inside);

@@ -10,6 +10,7 @@ public final class YardTest {
         faults();
         aFaultChangesNothing();
         readAnew();
+        readAnewOften();
         aJumper();
         aJumperInTheAir();
         theRope();
@@ -211,6 +212,21 @@ public final class YardTest {
         check.due("anew: the trace goes on", rope.trace(), 1);
     }
 
+    private static void readAnewOften() {
+        SkipRope rope = Check.yard("e7;j2 4 0 9;j2 4 0 9;");
+        for (int turn = 0; turn < 3; turn++) {
+            rope.ticks();
+            check.due("in the air", rope.jumper(0, 4), 3);
+            Check.type(rope, "j2 4 0 9;");
+            check.due("yard", rope.yard(), 1);
+            check.due("4, if it is not told", rope.now(1), 4);
+            check.due("the rope in 4", rope.now(2), 4);
+            check.due("nobody is in the air", rope.jumper(0, 4), 0);
+            check.due("wind", rope.jumper(0, 2), 9);
+            check.due("one jumper", rope.count(0), 1);
+        }
+    }
+
     private static void aJumper() {
         SkipRope rope = Check.yard("e4;j12 4 11 60;j2 1 0 1;");
         int[] first = {12, 4, 60, 1, 0, 11, 4};
@@ -279,6 +295,8 @@ public final class YardTest {
         check.due("who is in yet", rope.now(3), 9);
         check.due("first of the others", rope.now(4), 4);
         check.due("who", rope.now(5), 9);
+        rope = Check.yard("j4 1 3 60;j4 1 2 60;");
+        check.due("who, asked first of all", rope.now(5), 2);
         rope = Check.yard("e3;j3 1 2 60;");
         check.due("far, none", rope.now(4), SkipRope.NONE);
         check.due("far, nobody", rope.now(5), 0);
