@@ -196,7 +196,6 @@ public final class SkipRope {
         int most = -1;
         for (int every = LEAST_EVERY; every <= MOST_EVERY; every++) {
             trial.become(scene);
-            // By the one rule for all of them, though speeds() would refuse the one that it has.
             trial.turn(every);
             playOn(n);
             int left = Integer.bitCount(trial.inside);
@@ -640,7 +639,11 @@ public final class SkipRope {
             }
         }
 
+        /** TURNED is to another EVERY alone: left as it is, the rope keeps the one tick more behind a trip. */
         void turn(int another) {
+            if (another == every) {
+                return;
+            }
             every = another;
             round = Math.min(round, another);
         }

@@ -9,6 +9,8 @@ public final class AheadTest {
         stayingFar();
         pacing();
         pacingAtTheEdge();
+        pacingRightBehindATrip();
+        pacingByHand();
         entering();
         enteringFar();
         theOdds();
@@ -77,16 +79,75 @@ public final class AheadTest {
         rope.ticks();
         rope.ticks();
         check.due("pace(1), too late", rope.pace(1), 2);
-        // Behind a trip the rope has one more tick to go than EVERY; TURNED to any up to it, it has as many.
-        // Who is up in the ticks 5 and 9, ... alone is met by EVERY 3 from then on (tick 5) and by no other one.
-        rope = Check.yard("e3;j4 1 1 60;j12 1 11 1;j3 3 2 60;");
+    }
+
+    /** EVERY 3, TICK 3, one is OUT by a trip in the tick numbered 2: the rope comes round in tick 6, as it is. */
+    private static SkipRope rightBehindATrip() {
+        SkipRope rope = Check.yard("e3;j4 1 1 60;j12 1 11 1;j3 3 2 60;");
         rope.goes(0);
         Check.ticks(rope, 3);
         check.due("one more", rope.now(2), 4);
         rope.goes(2);
+        return rope;
+    }
+
+    private static void pacingRightBehindATrip() {
+        // Up in the tick 6 he meets the rope as it is; TURNED to 2 it finds him in tick 4.
+        SkipRope rope = rightBehindATrip();
+        rope.comes(0, 3);
+        check.due("stay(4), as it is", rope.stay(4), 1);
+        check.due("pace(1)", rope.pace(1), 2);
+        check.due("pace(2)", rope.pace(2), 3);
+        check.due("pace(3)", rope.pace(3), 3);
+        check.due("pace(4), as it is", rope.pace(4), 3);
+        // Up in the tick 5 alone he would meet a rope that came in 3 ticks, but it is not TURNED to the 3 that it has.
+        rope = rightBehindATrip();
         rope.comes(0, 2);
-        check.due("pace(4), EVERY as it is is TURNED, too", rope.pace(4), 3);
-        check.due("while nothing is turned", rope.stay(4), 0);
+        check.due("stay(4), in none", rope.stay(4), 0);
+        check.due("pace(4), none is better", rope.pace(4), 2);
+        // TURNED to another one and to this one again, it comes in 3: now 3 alone is met.
+        check.due("speeds(4)", rope.speeds(4), 3);
+        check.due("as many", rope.now(2), 4);
+        check.due("pace(4), 3 is another one", rope.pace(4), 3);
+        check.due("speeds(3)", rope.speeds(3), 4);
+        check.due("as many", rope.now(2), 3);
+        check.due("pace(4), as it is by now", rope.pace(4), 3);
+    }
+
+    private static int paceByHand(SkipRope rope, int n) {
+        int best = 0;
+        int most = -1;
+        for (int every = 2; every <= 9; every++) {
+            boolean turned = rope.speeds(every) != SkipRope.STATE;
+            int left = Integer.bitCount(rope.stay(n));
+            if (turned) {
+                rope.undo();
+            }
+            if (left > most) {
+                most = left;
+                best = every;
+            }
+        }
+        return best;
+    }
+
+    /** PACE is what speeds() and stay() tell of each EVERY, and stay() alone of the one that it is. */
+    private static void pacingByHand() {
+        String[] texts = {
+            "j4 2 3 2;j2 1 1 5;j6 3 2 9;j4 1 2 3;j8 4 0 2;",
+            "e2;j2 1 1 9;j3 1 0 9;j5 2 4 9;j12 4 8 9;j6 2 1 9;j7 3 0 9;",
+            "e9;j9 1 8 60;j10 1 8 60;j3 1 2 60;j4 2 0 60;",
+        };
+        for (String text : texts) {
+            for (int ticks = 0; ticks <= 20; ticks++) {
+                for (int n : new int[] {0, 1, 2, 3, 4, 5, 6, 9, 10, 11, 20, 120}) {
+                    SkipRope rope = Check.yard(text);
+                    Check.ticks(rope, ticks);
+                    int byHand = paceByHand(rope, n);
+                    check.due(text + " " + ticks + " ticks, pace(" + n + ")", rope.pace(n), byHand);
+                }
+            }
+        }
     }
 
     private static void entering() {

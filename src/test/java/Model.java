@@ -76,7 +76,7 @@ final class Model {
         State turned(int e) {
             State s = copy();
             s.every = e;
-            if (s.nextRope - s.tick + 1 > e) {
+            if (e != every && s.nextRope - s.tick + 1 > e) {
                 s.nextRope = s.tick + e - 1;
             }
             return s;
