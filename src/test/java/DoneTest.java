@@ -1,6 +1,3 @@
-import java.util.ArrayList;
-import java.util.List;
-
 /** Promises 7 to 11: ticks, speeds, goes, comes, undo. */
 public final class DoneTest {
     private static final Check check = new Check();
@@ -18,7 +15,6 @@ public final class DoneTest {
         tenAreKnown();
         refusedIsNotUndone();
         undoneBringsAllBack();
-        theLastTick();
         check.end();
     }
 
@@ -210,11 +206,10 @@ public final class DoneTest {
         check.due("the tick is undone", rope.now(0), 0);
     }
 
-    private static void undoneBringsAllBack() {
+    /** The first n of ten calls of all four sorts. */
+    private static SkipRope done(int n) {
         SkipRope rope = Check.yard("e3;j2 1 0 9;j3 2 1 2;j5 4 2 60;j2 2 0 60;");
-        List<List<Long>> scenes = new ArrayList<>();
-        for (int t = 0; t < 10; t++) {
-            scenes.add(Check.all(rope));
+        for (int t = 0; t < n; t++) {
             if (t == 4) {
                 rope.speeds(2);
             } else if (t == 7) {
@@ -225,18 +220,16 @@ public final class DoneTest {
                 rope.ticks();
             }
         }
-        for (int t = 9; t >= 0; t--) {
-            rope.undo();
-            check.holds("all is back as it was ahead of call " + t, scenes.get(t).equals(Check.all(rope)));
-        }
+        return rope;
     }
 
-    /** Beyond the 512 calls of an object, where answers are free; within them the tick 999 can't be reached. */
-    private static void theLastTick() {
-        SkipRope rope = new SkipRope();
-        Check.ticks(rope, 998);
-        check.due("the last one", rope.ticks(), 0);
-        check.due("it is 999", rope.ticks(), SkipRope.STATE);
-        check.due("it is 999 yet", rope.now(0), 999);
+    private static void undoneBringsAllBack() {
+        for (int n = 0; n <= 10; n++) {
+            SkipRope rope = done(10);
+            for (int i = n; i < 10; i++) {
+                rope.undo();
+            }
+            check.holds("all is back as it was behind call " + n, Check.all(rope).equals(Check.all(done(n))));
+        }
     }
 }

@@ -6,6 +6,7 @@ public final class ModelTest {
     private static final String LETTERS = "ej;0123456789 ej;  x";
     private static final int RUNS = 300;
     private static final int CALLS = 512;
+    private static final int CALLS_OF_A_TEXT = 125;
 
     private final Random random;
     private final int run;
@@ -34,7 +35,7 @@ public final class ModelTest {
         tell(goodText());
         while (calls < CALLS) {
             int chance = random.nextInt(100);
-            if (chance < 2) {
+            if (chance < 2 && calls + CALLS_OF_A_TEXT <= CALLS) {
                 tell(random.nextInt(3) == 0 ? goodText() : badText());
             } else if (chance < 50) {
                 act();
