@@ -27,6 +27,7 @@ public final class EdgeAheadTest {
         whoIsOutHasNoPartInTheOdds();
         heMissesTheNextJumpAlone();
         hisWindIsAsItWas();
+        whoTripsHelpsNobody();
         looksKnowNoLastTick();
         check.end();
     }
@@ -362,6 +363,18 @@ public final class EdgeAheadTest {
         odds(rope, 5, 7, 1, 1);
         odds(rope, 5, 8, 0, 1);
         odds(rope, 10, 8, 0, 1);
+    }
+
+    /** "that all who are IN NOW are IN": a trip makes the rope wait, but then it is lost already. */
+    private static void whoTripsHelpsNobody() {
+        // By one more jump the rope of tick 7 finds each; by a missed one it is that of tick 9, or of 10, if one tripped.
+        SkipRope rope = Check.yard("e2;j2 3 1 2;j2 3 1 2;");
+        Check.ticks(rope, 2);
+        odds(rope, 3, 5, 1, 1);
+        odds(rope, 3, 6, 9, 100);
+        odds(rope, 3, 7, 9, 100);
+        odds(rope, 3, 8, 0, 1);
+        odds(rope, 3, 9, 0, 1);
     }
 
     /** "(As things are NOW; nothing is changed; TICKS alone go by.)", close to the last tick, beyond 512 calls. */
